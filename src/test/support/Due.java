@@ -1,7 +1,9 @@
 /** Holds a test's answers against those that are due, and ends the test with exit code 1 if one was wrong. */
 final class Due {
     private final String test;
+    private String sentence = "";
     private int answers = 0;
+    private int answersOfSentence = 1;
     private int wrong = 0;
 
     Due(String test) {
@@ -20,11 +22,20 @@ final class Due {
         return x;
     }
 
+    /** The document's words by which the answers from here on are due. */
+    void sentence(String words) {
+        endSentence();
+        sentence = words;
+        answersOfSentence = 0;
+    }
+
     void is(String call, long got, long want) {
         answers++;
+        answersOfSentence++;
         if (got != want) {
             wrong++;
-            System.out.println(test + ": " + call + " answered " + got + ", due is " + want);
+            System.out.println(test + ": " + call + " answered " + got + ", due is " + want
+                    + (sentence.isEmpty() ? "" : " (" + sentence + ")"));
         }
     }
 
@@ -42,9 +53,17 @@ final class Due {
     }
 
     void end() {
+        endSentence();
         System.out.println(test + ": " + answers + " answers, " + wrong + " wrong");
         if (wrong != 0 || answers == 0) {
             System.exit(1);
+        }
+    }
+
+    private void endSentence() {
+        if (answersOfSentence == 0) {
+            wrong++;
+            System.out.println(test + ": no answer was held against: " + sentence);
         }
     }
 }
